@@ -191,11 +191,18 @@ public final class SortPacks {
         }
         int left = i;
         long seen = 0;
-        int bits = 8 * had.size;
-        for (int at = 0; at < bits; at++) {
-            seen = (seen << 1 | had.bitAt(at)) & LOW_48;
-            if (seen == BLOCK_MARK && left-- == 0) {
-                return at + 1 - MARK_BITS;
+        for (int k = 0; k < had.size; k++) {
+            int octet = had.at(k);
+            for (int bit = 7; bit >= 0; bit--) {
+                seen = (seen << 1 | octet >> bit & 1) & LOW_48;
+                int from = 8 * (k + 1) - bit - MARK_BITS;
+                // THE MARK begins with 0s: ahead of 48 bits they would be taken from nowhere.
+                if (from >= 0 && seen == BLOCK_MARK) {
+                    if (left == 0) {
+                        return from;
+                    }
+                    left--;
+                }
             }
         }
         return BAD;
@@ -233,10 +240,6 @@ public final class SortPacks {
 
         int at(int i) {
             return has(i) ? bytes[i] & 255 : 0;
-        }
-
-        int bitAt(int bit) {
-            return at(bit >> 3) >> 7 - (bit & 7) & 1;
         }
 
         void set(int i, int value) {

@@ -65,6 +65,13 @@ public final class AloneTest {
         SortPacks x = Checks.fed(1, Checks.hex("3141592653"));
         x.open();
         C.due("40 bits of it", x.mark(0), SortPacks.BAD);
+        for (int less = 1; less < 4; less++) {
+            BitRow row = new BitRow().put(48 - less, BitRow.BLOCK_MARK & (1L << 48 - less) - 1).put("111");
+            Checks.feedAll(x, row.bytes());
+            x.open();
+            C.due("all but the first " + less + " bits of it", x.mark(0), SortPacks.BAD);
+            C.due("all but the first " + less + " bits of it", x.alone(0), SortPacks.BAD);
+        }
         Checks.feedAll(x, Checks.hex("314159265359"));
         C.due("the input is not what open() had", x.mark(0), SortPacks.BAD);
         x.open();

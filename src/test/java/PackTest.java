@@ -1,6 +1,7 @@
 /** Promises 5, 11 and 13 to 16 for what is packed, against a second packer. */
 public final class PackTest {
     private static final Checks C = new Checks("PackTest");
+    private static int longest;
 
     public static void main(String[] args) {
         for (int level : new int[] {1, 2, 9}) {
@@ -25,6 +26,10 @@ public final class PackTest {
         for (int most = 1190; most < 1210; most += 3) {
             compare("tables " + most, 9, Checks.mixed(most, most, 256));
         }
+        for (int seed = 0; seed < 10; seed++) {
+            compare("skewed " + seed, 9, skewed(seed));
+        }
+        C.due("LENGTHS above 10 were among them", longest > 10 ? 1 : 0, 1);
         known();
         state();
         C.finish();
@@ -42,6 +47,15 @@ public final class PackTest {
         int[] bytes = Checks.mixed(size, size, 65536);
         for (int k = 0; k < size; k++) {
             bytes[k] = Integer.numberOfLeadingZeros(bytes[k] | 1);
+        }
+        return bytes;
+    }
+
+    /** Many signs that come once, then two of which one is rarer: makes long codes. */
+    private static int[] skewed(int seed) {
+        int[] bytes = Checks.mixed(seed, 1500, 3);
+        for (int k = 0; k < bytes.length; k++) {
+            bytes[k] = k < 160 ? k : bytes[k] / 2;
         }
         return bytes;
     }
@@ -87,6 +101,7 @@ public final class PackTest {
             for (int v = t; v < alphabet; v += 5) {
                 C.due(name + "length(" + t + ", " + v + ")", x.length(t, v), due.lengths[t][v]);
             }
+            longest = Math.max(longest, java.util.Arrays.stream(due.lengths[t]).max().orElse(0));
             C.due(name + "length(" + t + ", behind)", x.length(t, alphabet), SortPacks.BAD);
         }
         C.due(name + "length(behind, 0)", x.length(due.lengths.length, 0), SortPacks.BAD);
