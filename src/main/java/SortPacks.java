@@ -17,6 +17,8 @@ public final class SortPacks {
     private static final int TABLES_LEAST = 2;
     private static final int TABLES_MOST = 6;
     private static final int FIFTY = 50;
+    // So many like bytes are followed by the number of those that were left out.
+    private static final int LIKE = 4;
     private static final int BITS_MOST = 8 * INPUT_MOST;
     private static final int LENGTH_MOST = 20;
     private static final int PACKED_LENGTH_MOST = 17;
@@ -218,7 +220,7 @@ public final class SortPacks {
     }
 
     private static int joinSums(int joined, int sum) {
-        return Integer.rotateLeft(joined, 1) ^ sum;
+        return (joined << 1 | joined >>> 31) ^ sum;
     }
 
     /** Bytes one behind the other, up to a bound. */
@@ -725,13 +727,13 @@ public final class SortPacks {
 
         private static int cheapest(int[] numbers, int from, int to, Coding coding) {
             int best = 0;
-            int least = Integer.MAX_VALUE;
+            int least = 0;
             for (int t = 0; t < coding.tables; t++) {
                 int cost = 0;
                 for (int i = from; i < to; i++) {
                     cost += coding.lengths[t][numbers[i]];
                 }
-                if (cost < least) {
+                if (t == 0 || cost < least) {
                     least = cost;
                     best = t;
                 }
@@ -814,7 +816,6 @@ public final class SortPacks {
     /** Packs an input into OUT. */
     private static final class Packer {
         private static final int RUN_MOST = 255;
-        private static final int PLAIN_RUN = 4;
 
         private final Told told;
         private final Turns turns;
@@ -823,7 +824,7 @@ public final class SortPacks {
         private final Front tableFront = new Front(TABLES_MOST);
         private final TableMaker maker = new TableMaker();
         private final Codes[] codes = new Codes[TABLES_MOST];
-        private final boolean[] isThere = new boolean[SIGNS_MOST];
+        private final int[] isThere = new int[SIGNS_MOST];
         private final byte[] block = new byte[ROOM_MOST];
         private int size;
         private final int[] numbers = new int[ROOM_MOST + 1];
@@ -873,16 +874,16 @@ public final class SortPacks {
             int at = from;
             while (at < input.size) {
                 int run = runFrom(input, at);
-                int takes = run < PLAIN_RUN ? run : PLAIN_RUN + 1;
+                int takes = run < LIKE ? run : LIKE + 1;
                 if (size + takes > room || size + takes > block.length) {
                     return at;
                 }
-                for (int k = 0; k < run && k < PLAIN_RUN; k++) {
+                for (int k = 0; k < run && k < LIKE; k++) {
                     block[size] = (byte) input.at(at);
                     size++;
                 }
-                if (run >= PLAIN_RUN) {
-                    block[size] = (byte) (run - PLAIN_RUN);
+                if (run >= LIKE) {
+                    block[size] = (byte) (run - LIKE);
                     size++;
                 }
                 at += run;
@@ -899,22 +900,13 @@ public final class SortPacks {
         }
 
         private void packBlock(int sum, int plainSize) {
-            told.draftSum = sum;
-            told.note(FACT_BIT, bits.written);
-            told.note(FACT_BYTES, plainSize);
-            told.note(FACT_SHORTENED, size);
-            told.note(FACT_ROW, 0);
             turns.sortTurns(block, size);
             findSigns();
             makeNumbers();
             Coding coding = told.spare;
             coding.alphabet = front.size + 2;
             maker.makeTables(numbers, numbersSize, coding);
-            told.note(FACT_ORIGIN, turns.origin(size));
-            told.note(FACT_SIGNS, front.size);
-            told.note(FACT_TABLES, coding.tables);
-            told.note(FACT_CHOICES, coding.choices);
-            told.note(FACT_NUMBERS, numbersSize);
+            noteFacts(sum, plainSize, coding);
             writeHead(sum);
             writeMap();
             writeChoices(coding);
@@ -924,14 +916,27 @@ public final class SortPacks {
             told.keepCoding();
         }
 
+        private void noteFacts(int sum, int plainSize, Coding coding) {
+            told.draftSum = sum;
+            told.note(FACT_BIT, bits.written);
+            told.note(FACT_BYTES, plainSize);
+            told.note(FACT_SHORTENED, size);
+            told.note(FACT_ORIGIN, turns.origin(size));
+            told.note(FACT_SIGNS, front.size);
+            told.note(FACT_TABLES, coding.tables);
+            told.note(FACT_CHOICES, coding.choices);
+            told.note(FACT_ROW, 0);
+            told.note(FACT_NUMBERS, numbersSize);
+        }
+
         private void findSigns() {
-            Arrays.fill(isThere, false);
+            Arrays.fill(isThere, 0);
             for (int i = 0; i < size; i++) {
-                isThere[block[i] & 255] = true;
+                isThere[block[i] & 255] = 1;
             }
             front.clear();
             for (int b = 0; b < SIGNS_MOST; b++) {
-                if (isThere[b]) {
+                if (isThere[b] == 1) {
                     front.add(b);
                 }
             }
@@ -989,7 +994,7 @@ public final class SortPacks {
         private int sixteenFrom(int from) {
             int sixteen = 0;
             for (int b = from; b < from + 16 && b < SIGNS_MOST; b++) {
-                sixteen = sixteen << 1 | (isThere[b] ? 1 : 0);
+                sixteen = sixteen << 1 | isThere[b];
             }
             return sixteen;
         }
@@ -1035,8 +1040,6 @@ public final class SortPacks {
 
     /** Opens rows, or a BLOCK alone, and tells the first RULE that is broken. */
     private static final class Opener {
-        private static final int LIKE = 4;
-
         private final Row out;
         private final Told told;
         private final Turns turns;
@@ -1079,6 +1082,7 @@ public final class SortPacks {
             return true;
         }
 
+        /** The bytes read are told from the first one on, as open() tells them: marks are found from there. */
         boolean openAlone(int at) {
             restart(at + MARK_BITS);
             if (!openBlock(ROOM_MOST)) {
@@ -1324,6 +1328,7 @@ public final class SortPacks {
                 if (number <= 1) {
                     run += (number + 1) * digitIsWorth;
                     digitIsWorth *= 2;
+                    // A run is put when it ends; only one that is above ROOM by itself is seen before.
                     if (run > room) {
                         return breaks(8);
                     }
