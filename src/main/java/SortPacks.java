@@ -1328,8 +1328,8 @@ public final class SortPacks {
                 if (number <= 1) {
                     run += (number + 1) * digitIsWorth;
                     digitIsWorth *= 2;
-                    // A run is put when it ends; only one that is above ROOM by itself is seen before.
-                    if (run > room) {
+                    // Digits count when they are read, though the run is put when it ends.
+                    if (run > room - size) {
                         return breaks(8);
                     }
                     continue;

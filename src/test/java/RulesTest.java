@@ -183,7 +183,7 @@ public final class RulesTest {
         breaks(12, "THE LAST is the fiftieth", row -> upTo(fits, row).put("10".repeat(49)).put("11").size());
     }
 
-    /** ROOM of LEVEL 1 is 200; a run is put when it ends, but its digits alone must not be above ROOM. */
+    /** ROOM of LEVEL 1 is 200; a digit counts when it is read, with the BLOCK's bytes before its run. */
     private static void rooms() {
         HandBlock two = HandBlock.ofTwo(null).choices(9);
         breaks(8, "a byte beyond ROOM", row -> upTo(two, row).put("10".repeat(201)).size());
@@ -191,18 +191,35 @@ public final class RulesTest {
         breaks(8, "digits beyond ROOM", row -> upTo(two, row).put("00".repeat(8)).size());
         breaks(8, "digits beyond ROOM", row -> upTo(two, row).put("01".repeat(7)).size());
         breaks(8, "digits beyond ROOM behind bytes", row -> upTo(two, row).put("10".repeat(3)).put("01".repeat(7)).size());
-        // 100 bytes and a run of 127: seen when the run is at an end.
-        breaks(8, "a run beyond ROOM, then a byte",
-            row -> upTo(two, row).put("10".repeat(100)).put("00".repeat(7)).put("10").size());
-        breaks(8, "a run beyond ROOM, then THE LAST",
-            row -> upTo(two, row).put("10".repeat(100)).put("00".repeat(7)).put("11").size());
+        // Each of these rows goes on with codes; the digit itself is what is seen.
+        for (String behind : new String[] {"00", "01", "10", "11"}) {
+            String name = "ROOM, then " + behind;
+            breaksAhead(name + ", 100 bytes and 127", "10".repeat(100) + "00".repeat(7), behind);
+            breaksAhead(name + ", 74 bytes and 127", "10".repeat(74) + "00".repeat(7), behind);
+            breaksAhead(name + ", 75 bytes and 126", "10".repeat(75) + "01".repeat(6), behind);
+            breaksAhead(name + ", 170 bytes and 31", "10".repeat(170) + "00".repeat(5), behind);
+            breaksAhead(name + ", 199 bytes and 2", "10".repeat(199) + "01", behind);
+            breaksAhead(name + ", 200 bytes and 1", "10".repeat(200) + "00", behind);
+            breaksAhead(name + ", a run of 127, a byte, 127", "00".repeat(7) + "10" + "00".repeat(7), behind);
+        }
+        breaks(8, "a byte beyond ROOM behind a run",
+            row -> upTo(two, row).put("10".repeat(73)).put("00".repeat(7)).put("10").size());
         // 200 bytes are not beyond.
         HandBlock just = HandBlock.ofTwo(null).choices(9).sum(0);
         breaks(12, "200 bytes", row -> upTo(just, row).put("10".repeat(200)).put("11").size());
         breaks(12, "73 bytes and 127", row -> upTo(just, row).put("10".repeat(73)).put("00".repeat(7)).put("11").size());
-        breaks(8, "201 bytes in ROOM by a run",
-            row -> upTo(just, row).put("10".repeat(74)).put("00".repeat(7)).put("11").size());
+        breaks(12, "199 bytes and 1", row -> upTo(just, row).put("10".repeat(199)).put("00").put("11").size());
         roomOfAlone();
+    }
+
+    /** RULE 8 behind the codes, ahead of what stands behind them. */
+    private static void breaksAhead(String name, String codes, String behind) {
+        HandBlock two = HandBlock.ofTwo(null).choices(9);
+        breaks(8, name, row -> {
+            int bit = upTo(two, row).put(codes).size();
+            row.put(behind);
+            return bit;
+        });
     }
 
     /** Alone a BLOCK has the ROOM of LEVEL 9, whatever its row says. */
@@ -223,6 +240,27 @@ public final class RulesTest {
         x.open();
         C.due("1801 bytes alone", x.alone(0), -10 - (bit + 7) / 8);
         C.due("1801 bytes alone: rule", x.rule(), 8);
+        for (int more = 0; more < 8; more++) {
+            digitsAlone(99 + more, 1290, 8);
+            // 1,800 are not beyond ROOM; turned back they hold long runs, which OUT does not.
+            digitsAlone(99 + more, 1289, 11);
+        }
+    }
+
+    /** Bytes, then digits 1 up to 511, which are beyond the ROOM of LEVEL 9 from 1,290 bytes on; nothing is behind. */
+    private static void digitsAlone(int choices, int bytes, int rule) {
+        BitRow row = new BitRow().head(1);
+        HandBlock made = HandBlock.ofTwo(null).choices(choices).sum(0);
+        upTo(made, row).put("10".repeat(bytes)).put("00".repeat(9));
+        int bit = rule == 8 ? row.size() : row.put("11").size();
+        // The bits up to the whole byte are all that is behind.
+        SortPacks x = Checks.fed(1, row.whole().bytes());
+        x.open();
+        C.due("of LEVEL 1: rule", x.rule(), 8);
+        String name = choices + " CHOICES, " + bytes + " bytes and 511 alone";
+        C.due(name, x.alone(0), -10 - (bit + 7) / 8);
+        C.due(name + ": rule", x.rule(), rule);
+        C.due(name + ": OUT", x.count(1), 0);
     }
 
     private static void origins() {
