@@ -158,7 +158,7 @@ public final class SortPacks {
 
     public int block(int i, int what) {
         if (i == -1 && what == 0) {
-            return told.size;
+            return told.went;
         }
         return told.fact(i, what);
     }
@@ -409,25 +409,26 @@ public final class SortPacks {
         private final int[] sums = new int[TOLD_MOST];
         private final int[] draft = new int[FACTS];
         private int draftSum;
-        private int size;
+        // All BLOCKS that went, also those behind the ones of which facts are told.
+        private int went;
         private Coding last = new Coding();
         private Coding spare = new Coding();
 
         void forget() {
-            size = 0;
+            went = 0;
             last.forget();
         }
 
-        boolean has(int i) {
-            return i >= 0 && i < size;
+        boolean tells(int i) {
+            return i >= 0 && i < went && i < TOLD_MOST;
         }
 
         int fact(int i, int what) {
-            return has(i) && what >= 0 && what < FACTS ? facts[i * FACTS + what] : BAD;
+            return tells(i) && what >= 0 && what < FACTS ? facts[i * FACTS + what] : BAD;
         }
 
         int sumOf(int i) {
-            return has(i) ? sums[i] : 0;
+            return tells(i) ? sums[i] : 0;
         }
 
         void note(int what, int value) {
@@ -437,11 +438,11 @@ public final class SortPacks {
         }
 
         void keepBlock() {
-            if (size < TOLD_MOST) {
-                System.arraycopy(draft, 0, facts, size * FACTS, FACTS);
-                sums[size] = draftSum;
-                size++;
+            if (went < TOLD_MOST) {
+                System.arraycopy(draft, 0, facts, went * FACTS, FACTS);
+                sums[went] = draftSum;
             }
+            went++;
         }
 
         /** A BLOCK that fails later must not touch what is told of the last good one. */
