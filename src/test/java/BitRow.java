@@ -20,6 +20,18 @@ final class BitRow {
         return this;
     }
 
+    BitRow putBytes(int... bytes) {
+        for (int octet : bytes) {
+            put(8, octet);
+        }
+        return this;
+    }
+
+    /** The bits as characters. */
+    String text() {
+        return bits.toString();
+    }
+
     BitRow head(int level) {
         return put(8, 66).put(8, 90).put(8, 104).put(8, 48 + level);
     }

@@ -7,10 +7,11 @@ public final class CallsTest {
         Integer.MAX_VALUE, Integer.MIN_VALUE};
 
     public static void main(String[] args) {
-        for (int seed = 0; seed < 400; seed++) {
+        for (int seed = 0; seed < 1600; seed++) {
             Random random = new Random(seed);
             SortPacks x = new SortPacks(random.nextInt(12) - 1);
-            for (int k = 0; k < 512; k++) {
+            // Each of these is four calls at most.
+            for (int k = 0; k < 120; k++) {
                 int call = random.nextInt(24);
                 try {
                     call(x, call, random);

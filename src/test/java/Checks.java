@@ -4,17 +4,35 @@ import java.util.Arrays;
 final class Checks {
     private int wrong;
     private int asked;
+    private int sentences;
+    private int askedBefore;
+    private String held = "";
     private final String name;
 
     Checks(String name) {
         this.name = name;
     }
 
+    /** The answers that follow hold this sentence of the document; where: its promise, or its place in Terms. */
+    void holds(String where, String sentence) {
+        closeSentence();
+        sentences++;
+        askedBefore = asked;
+        held = where + ", \"" + sentence + "\": ";
+    }
+
+    private void closeSentence() {
+        if (!held.isEmpty() && asked == askedBefore) {
+            wrong++;
+            System.out.println(name + ": " + held + "nothing was asked");
+        }
+    }
+
     void due(String call, long got, long want) {
         asked++;
         if (got != want) {
             wrong++;
-            System.out.println(name + ": " + call + " answered " + got + ", due is " + want);
+            System.out.println(name + ": " + held + call + " answered " + got + ", due is " + want);
         }
     }
 
@@ -22,7 +40,7 @@ final class Checks {
         asked++;
         if (!Arrays.equals(got, want)) {
             wrong++;
-            System.out.println(name + ": " + call + " answered " + Arrays.toString(got)
+            System.out.println(name + ": " + held + call + " answered " + Arrays.toString(got)
                 + ", due is " + Arrays.toString(want));
         }
     }
@@ -39,7 +57,8 @@ final class Checks {
     }
 
     void finish() {
-        System.out.println(name + ": " + asked + " answers, " + wrong + " not as due");
+        closeSentence();
+        System.out.println(name + ": " + sentences + " sentences, " + asked + " answers, " + wrong + " not as due");
         if (wrong != 0 || asked == 0) {
             System.exit(1);
         }
@@ -74,6 +93,17 @@ final class Checks {
         int[] bytes = new int[Math.max(0, Math.min(400, x.count(1) - from))];
         for (int k = 0; k < bytes.length; k++) {
             bytes[k] = x.out(from + k);
+        }
+        return bytes;
+    }
+
+    /** Some 50 bytes of OUT, from all of it. */
+    static int[] outSample(SortPacks x) {
+        int size = x.count(1);
+        int step = 1 + size / 50;
+        int[] bytes = new int[(size + step - 1) / step];
+        for (int k = 0; k < bytes.length; k++) {
+            bytes[k] = x.out(step * k);
         }
         return bytes;
     }

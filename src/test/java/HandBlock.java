@@ -1,4 +1,6 @@
+import java.util.ArrayList;
 import java.util.Arrays;
+import java.util.List;
 
 /** A BLOCK made by hand: every field can be set to what no packing makes. */
 final class HandBlock {
@@ -34,6 +36,17 @@ final class HandBlock {
         made.numbers = numbers;
         made.sum = BitRow.sum(plain);
         return made;
+    }
+
+    /** The bytes of a row that has these BLOCKS, and the JOINED SUM that it ought to have. */
+    static int[] rowOf(int level, HandBlock... blocks) {
+        BitRow row = new BitRow().head(level);
+        int joined = 0;
+        for (HandBlock block : blocks) {
+            block.writeTo(row);
+            joined = Integer.rotateLeft(joined, 1) ^ block.sum;
+        }
+        return row.last(joined).bytes();
     }
 
     HandBlock choices(int choices) {
@@ -109,12 +122,27 @@ final class HandBlock {
         return row;
     }
 
-    /** All by the first TABLE, which is enough where all are alike. */
+    /** Each fifty by the TABLE that was chosen. */
     BitRow writeCodes(BitRow row) {
-        for (int number : numbers) {
-            row.put(code(lengths[0], number));
+        int[] chosen = chosen();
+        for (int k = 0; k < numbers.length; k++) {
+            row.put(code(lengths[chosen[k / 50]], numbers[k]));
         }
         return row;
+    }
+
+    /** The TABLES that the places tell. */
+    int[] chosen() {
+        List<Integer> front = new ArrayList<>();
+        for (int t = 0; t < tables; t++) {
+            front.add(t);
+        }
+        int[] chosen = new int[places.length];
+        for (int k = 0; k < places.length; k++) {
+            chosen[k] = front.remove(places[k]);
+            front.add(0, chosen[k]);
+        }
+        return chosen;
     }
 
     static String code(int[] lengths, int number) {

